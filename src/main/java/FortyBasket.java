@@ -536,9 +536,9 @@ public final class FortyBasket {
             at = place;
             if (place >= length) {
                 token = END;
-            } else if (isDigit(bytes[place])) {
+            } else if (bytes[place] >= '0' && bytes[place] <= '9') {
                 nextNumber();
-            } else if (isLetter(bytes[place])) {
+            } else if (bytes[place] >= 'a' && bytes[place] <= 'z') {
                 nextWord();
             } else {
                 nextSign();
@@ -548,7 +548,7 @@ public final class FortyBasket {
         private void nextNumber() {
             token = NUMBER;
             number = 0;
-            while (place < length && isDigit(bytes[place])) {
+            while (place < length && bytes[place] >= '0' && bytes[place] <= '9') {
                 // One that is too long is held above all that is allowed, and can't run over.
                 number = place - at < DIGITS ? number * 10 + bytes[place] - '0' : MOST_NUMBER + 1;
                 place++;
@@ -556,63 +556,40 @@ public final class FortyBasket {
         }
 
         private void nextWord() {
-            while (place < length && isLetter(bytes[place])) {
+            while (place < length && bytes[place] >= 'a' && bytes[place] <= 'z') {
                 place++;
             }
             token = OTHER;
-            for (int word = 0; word < ALL_WORDS; word++) {
-                if (isWord(word)) {
+            int letters = place - at;
+            for (int word = 0; word < ALL_WORDS && letters < WORD_WIDTH; word++) {
+                int from = word * WORD_WIDTH;
+                int same = 0;
+                while (same < letters && WORDS.charAt(from + same) == bytes[at + same]) {
+                    same++;
+                }
+                if (same == letters && WORDS.charAt(from + same) == ' ') {
                     token = word;
                 }
             }
         }
 
-        private boolean isWord(int word) {
-            int letters = place - at;
-            if (letters >= WORD_WIDTH || WORDS.charAt(word * WORD_WIDTH + letters) != ' ') {
-                return false;
-            }
-            for (int i = 0; i < letters; i++) {
-                if (WORDS.charAt(word * WORD_WIDTH + i) != bytes[at + i]) {
-                    return false;
-                }
-            }
-            return true;
-        }
-
         private void nextSign() {
-            int sign = bytes[place];
-            place++;
-            token = signOf(sign);
-            if ((token == LESS || token == MORE) && place < length && bytes[place] == '=') {
-                place++;
-                token = token == LESS ? AT_MOST : AT_LEAST;
+            boolean beforeEqual = place + 1 < length && bytes[place + 1] == '=';
+            switch (bytes[place]) {
+                case ';': token = NEXT; break;
+                case '[': token = OPEN; break;
+                case ']': token = CLOSE; break;
+                case '+': token = PLUS; break;
+                case '-': token = MINUS; break;
+                case '*': token = TIMES; break;
+                case '/': token = OVER; break;
+                case '%': token = REST; break;
+                case '<': token = beforeEqual ? AT_MOST : LESS; break;
+                case '=': token = EQUAL; break;
+                case '>': token = beforeEqual ? AT_LEAST : MORE; break;
+                default: token = OTHER; break;
             }
-        }
-
-        private static int signOf(int sign) {
-            switch (sign) {
-                case ';': return NEXT;
-                case '[': return OPEN;
-                case ']': return CLOSE;
-                case '+': return PLUS;
-                case '-': return MINUS;
-                case '*': return TIMES;
-                case '/': return OVER;
-                case '%': return REST;
-                case '<': return LESS;
-                case '=': return EQUAL;
-                case '>': return MORE;
-                default: return OTHER;
-            }
-        }
-
-        private static boolean isDigit(int sign) {
-            return sign >= '0' && sign <= '9';
-        }
-
-        private static boolean isLetter(int sign) {
-            return sign >= 'a' && sign <= 'z';
+            place += token == AT_MOST || token == AT_LEAST ? 2 : 1;
         }
     }
 
@@ -925,9 +902,24 @@ public final class FortyBasket {
         }
 
         private void fact(int depth) {
-            if (text.token != NOT && text.token != OPEN) {
-                comparison();
-            } else if (depth >= DEPTH) {
+            if (text.token == NOT || text.token == OPEN) {
+                enclosedFact(depth);
+                return;
+            }
+            sum(0);
+            int sign = text.token;
+            if (!within(sign, LESS, MORE)) {
+                text.fail(FAULT_SIGN);
+                return;
+            }
+            countOne();
+            text.next();
+            sum(0);
+            emit(-1 - sign);
+        }
+
+        private void enclosedFact(int depth) {
+            if (depth >= DEPTH) {
                 text.fail(FAULT_DEPTH);
             } else if (text.token == NOT) {
                 text.next();
@@ -941,19 +933,6 @@ public final class FortyBasket {
                 }
                 text.next();
             }
-        }
-
-        private void comparison() {
-            sum(0);
-            int sign = text.token;
-            if (!within(sign, LESS, MORE)) {
-                text.fail(FAULT_SIGN);
-                return;
-            }
-            countOne();
-            text.next();
-            sum(0);
-            emit(-1 - sign);
         }
 
         /** A SUM at level 0, a TERM at level 1, a VALUE at level 2: a row of those of the next level. */
