@@ -12,6 +12,7 @@ public final class FaceTest {
     private static final String FACE = "feed5 end1 shop0 rule0 force1 thing2 code2 want2 dear3 cost1 put1 drop1 lay1 lift1 look1 "
         + "buy0 sendBack1 day0 undo0 order1 fill1 baskets1 days1 sent1 join1 freedom1 receipt3 told4 ruled1 probe3 await2 "
         + "seed1 years3 count1 image1 back1";
+    private static final String NAMES = " " + FACE.replaceAll("[0-9]", "") + " ";
 
     private static void methods() {
         Map<String, Method> seen = new TreeMap<>();
@@ -20,7 +21,7 @@ public final class FaceTest {
                 seen.put(m.getName() + m.getParameterCount(), m);
             } else {
                 D.holds(m + " is private", Modifier.isPrivate(m.getModifiers()));
-                D.holds(m + " bears no public name", !(" " + FACE.replaceAll("[0-9]", "")).contains(" " + m.getName() + " "));
+                D.holds(m + " bears no public name", !NAMES.contains(" " + m.getName() + " "));
             }
         }
         for (String name : FACE.split(" ")) {
@@ -50,6 +51,7 @@ public final class FaceTest {
             }
             for (Method m : c.getDeclaredMethods()) {
                 D.holds(m + " has at most seven parameters", m.getParameterCount() <= 7);
+                D.holds(m + " bears no public name", !NAMES.contains(" " + m.getName() + " "));
             }
         }
     }

@@ -22,6 +22,8 @@ public final class FaultTest {
         shop("shop 0  ", Due.fault(8, 0));
         shop("shops 0 0", Due.fault(0, 0));
         shop("Shop 0 0", Due.fault(0, 0));
+        shop("xhop 0 0", Due.fault(0, 0));
+        shop("shoz 0 0", Due.fault(0, 0));
         shop("sho", Due.fault(0, 0));
         shop("shopkeeper 0 0", Due.fault(0, 0));
         shop("price 1", Due.fault(0, 0));
@@ -132,6 +134,12 @@ public final class FaultTest {
         rule("price 1 told", Due.fault(8, 0));
         rule("price told1", Due.fault(10, 0));
         rule("price toldx", Due.fault(6, 0));
+        rule("price toldz", Due.fault(6, 0));
+        rule("price told" + (char) 123, Due.fault(10, 0));
+        rule("price told" + (char) 96, Due.fault(10, 0));
+        rule("price 1:", Due.fault(7, 0));
+        rule("price shop", Due.fault(6, 0));
+        rule("price want", Due.fault(6, 0));
         rule("price 1 +", Due.fault(9, 0));
         rule("price 5 %", Due.fault(9, 0));
         rule("price 1 + * 2", Due.fault(10, 0));
@@ -140,6 +148,8 @@ public final class FaultTest {
         rule("price 1 if", Due.fault(10, 0));
         rule("price 1 if 1", Due.fault(12, 0));
         rule("price 1 if 1 =", Due.fault(14, 0));
+        rule("price 1 if 1 <=", Due.fault(15, 0));
+        rule("price 1 if 1 >=", Due.fault(15, 0));
         rule("price 1 if 1 < = 2", Due.fault(15, 0));
         rule("price 1 if 1 => 2", Due.fault(14, 0));
         rule("price 1 if 1 == 2", Due.fault(14, 0));

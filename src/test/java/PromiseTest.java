@@ -601,6 +601,26 @@ public final class PromiseTest {
         is("20 three stay", x.thing(0, 4), 3);
     }
 
+    private static void promise20Last() {
+        FortyBasket x = Due.shopped("shop 0 0;thing 100 0 9;thing 70 0 9;off 30 0;off 1 0;sale 1 1 50;again");
+        x.put(0);
+        x.put(1);
+        x.lay(0);
+        is("20 first", x.buy(), 140);
+        x.image(0);
+        x.day();
+        x.put(0);
+        x.lay(1);
+        is("20 second", x.buy(), 49);
+        x.undo();
+        // The first is the LAST one again, at its prices and with its code: 140 - (100 - 30).
+        is("20 the last one again", x.sendBack(1), 70);
+        is("20 and the rest", x.sendBack(0), 70);
+        x.back(0);
+        is("37 the last one again", x.sendBack(0), 100);
+        is("37 and the rest", x.sendBack(1), 40);
+    }
+
     private static int[] order(FortyBasket x) {
         return new int[] {x.order(0), x.order(1), x.order(2), x.order(3), x.order(4), x.order(5)};
     }
@@ -761,6 +781,14 @@ public final class PromiseTest {
         row("25 the first", sent(z), 30, 0, 1, -2, -2, -2, -2, -2, -2);
         z.sendBack(1);
         row("25 nothing is left to bring", sent(z), 0, 0, 0, -2, -2, -2, -2, -2, -2);
+        FortyBasket u = Due.shopped("shop 0 0;thing 100 20 1;thing 50 10 2;off 100 0;again");
+        u.put(0);
+        u.put(1);
+        u.put(1);
+        u.lay(0);
+        is("25 paid", u.buy(), 100);
+        // THING 0 alone brings 100 - 20, both of THING 1 100 - 20, too: the fewest.
+        row("25 the fewest", sent(u), 80, 1, 0, -2, -2, -2, -2, -2, -2);
         FortyBasket v = Due.shopped("shop 30 50;thing 10 2 1;thing 25 1 2;again");
         v.put(0);
         v.put(1);
@@ -816,6 +844,11 @@ public final class PromiseTest {
         // From 1000 on it is carried.
         is("27 the least", z.freedom(0), 1000);
         is("27 carried", z.freedom(1), 700);
+        FortyBasket u = Due.shopped("shop 100 0;thing 4600 0 2");
+        u.put(0);
+        u.put(0);
+        is("27 the greatest", u.freedom(0), 9500);
+        is("27 the greatest", u.freedom(1), 9300);
         FortyBasket v = Due.shopped("shop 100 0;thing 5000 0 2;thing 10 5000 9");
         v.put(0);
         v.put(0);
@@ -1028,6 +1061,25 @@ public final class PromiseTest {
         row("35 bought", counts(x), 490, 4000, 3, 3, 3, 2, 1, 1, 4009, 0, 0, 1, 5, 9, 20);
     }
 
+    private static void promise37Told() {
+        FortyBasket x = threeRules();
+        x.told(0, 5, 2, 102);
+        x.told(1, 6, 3, 10);
+        is("37 ruled", x.ruled(1), 0);
+        x.image(0);
+        x.told(-1, 0, 0, 0);
+        x.told(1, 8, 4, 12);
+        x.told(0, 9, 5, 105);
+        is("37 ruled otherwise", x.ruled(1), 2);
+        x.image(1);
+        x.back(0);
+        is("37 prices", x.ruled(0), 1);
+        is("37 ruled as it was", x.ruled(1), 0);
+        x.back(1);
+        is("37 ruled as in the other", x.ruled(1), 2);
+        is("37 how many", x.ruled(0), 1);
+    }
+
     private static void promise36And37() {
         FortyBasket x = new FortyBasket();
         is("36 no shop", x.image(3), 0);
@@ -1103,6 +1155,7 @@ public final class PromiseTest {
         promise18();
         promise19();
         promise20();
+        promise20Last();
         promise21();
         promise22();
         promise23();
@@ -1119,6 +1172,7 @@ public final class PromiseTest {
         promise34();
         promise35();
         promise36And37();
+        promise37Told();
         D.finish();
     }
 }

@@ -77,7 +77,7 @@ public final class RoomTest {
             act(x, i, i % 3, i % 5);
         }
         long made = ROOM.getCurrentThreadAllocatedBytes() - before;
-        D.holds("calls make nothing, not " + made + " bytes", made < 4096);
+        D.holds("calls make nothing, not " + made + " bytes", made < 1024);
         before = ROOM.getCurrentThreadAllocatedBytes();
         x = new FortyBasket();
         made = ROOM.getCurrentThreadAllocatedBytes() - before;
