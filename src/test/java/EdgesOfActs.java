@@ -266,6 +266,15 @@ final class EdgesOfActs {
             e.call(x, r - 1, "force", r);
             e.call(x, 10 + r, "thing", 0, 0);
         }
+        // What a text with a FAULT told is gone: its CLAUSES, however many, and its VALUES.
+        FortyBasket z = Due.shopped("shop 0 0;thing 5 0 0");
+        for (int i = 0; i < 9; i++) {
+            e.is("twelve clauses and a fault", Due.rule(z, "price 7+7 if 1=1;".repeat(12)), Due.fault(12 * 17, 0));
+        }
+        e.is("a rule behind faults", Due.rule(z, "price 2*3 if looks=1;price 4"), 0);
+        z.force(0);
+        e.call(z, 4, "dear", 0, 0, 0);
+        e.call(z, 6, "dear", 0, 0, 1);
         e.refused(EdgesOfActs::sixRules, -1, "rule");
         FortyBasket y = sixRules();
         y.rule();
@@ -709,6 +718,18 @@ final class EdgesOfActs {
         e.call(z, 1, "thing", 0, 2);
         e.call(z, 0, "undo");
         e.call(z, 0, "count", 9);
+        // A BUY undone: the one ahead of it is the LAST again, at its prices, with its CODES, and what is PAID for it.
+        FortyBasket w = Due.shopped("shop 0 0;thing 100 0 9;thing 70 0 9;off 30 0;off 7 0;sale 1 1 50;again");
+        w.put(0);
+        w.put(1);
+        lays(w, 1, 0);
+        e.call(w, 133, "buy");
+        w.day();
+        w.put(0);
+        e.call(w, 50, "buy");
+        e.call(w, 7, "undo");
+        e.call(w, 70, "sendBack", 1);
+        e.call(w, 63, "sendBack", 0);
         FortyBasket v = Due.shopped("shop 0 0;thing 1 0 0");
         for (int i = 0; i < 99; i++) {
             v.look(0);
@@ -722,16 +743,16 @@ final class EdgesOfActs {
         e.refused(FortyBasket::new, -1, "undo");
         e.refused(() -> Due.shopped(BIG), -1, "undo");
         e.refused(() -> {
-            FortyBasket w = lived();
-            w.back(0);
-            return w;
+            FortyBasket u = lived();
+            u.back(0);
+            return u;
         }, -1, "undo");
         e.refused(() -> {
-            FortyBasket w = lived();
+            FortyBasket u = lived();
             for (int i = 0; i < 20; i++) {
-                w.undo();
+                u.undo();
             }
-            return w;
+            return u;
         }, -1, "undo");
     }
 

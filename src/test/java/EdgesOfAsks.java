@@ -248,6 +248,7 @@ final class EdgesOfAsks {
         e.row(x, "days", 600, 0, 0, 0, 0, 0, 0);
         x.force(0);
         e.row(x, "days", 460, 0, 1, 2, 3, 4, 4);
+        e.row(x, "baskets", 600, 0, 0, 0, 0, 0, 0, 1);
         Due.shop(x, "shop 50 9999" + six);
         // 50 for each DAY: today and DAY 3 are best.
         e.row(x, "days", 610, 0, 0, 0, 3, 3, 3);
@@ -315,6 +316,8 @@ final class EdgesOfAsks {
         // 100 paid; THING 0 alone brings 80, both of THING 1 80, too: the fewest.
         e.row(bought(laid(filled("shop 0 0;thing 100 20 1;thing 50 10 2;off 100 0;again", 0, 1, 1), 0)), "sent", 80, 1, 0, -2, -2, -2, -2, -2, -2);
         e.row(bought(laid(filled("shop 0 0;thing 50 10 2;thing 100 20 1;off 100 0;again", 0, 0, 1), 0)), "sent", 80, 0, 1, -2, -2, -2, -2, -2, -2);
+        // 200 paid; 1 2 and 2 0 bring 200 - 40.
+        e.row(bought(laid(filled("shop 0 0;thing 100 20 2;thing 50 10 2;off 100 0;again", 0, 0, 1, 1), 0)), "sent", 160, 2, 0, -2, -2, -2, -2, -2, -2);
         // Two are the fewest in any case: of 0 2, 1 1 and 2 0 the first.
         e.row(bought(laid(filled("shop 0 0;thing 50 10 2;thing 50 10 2;off 100 0;again", 0, 0, 1, 1), 0)), "sent", 80, 0, 2, -2, -2, -2, -2, -2, -2);
     }
@@ -381,6 +384,8 @@ final class EdgesOfAsks {
         e.row(x, "freedom", 500, 99);
         x.lift(0);
         e.row(x, "freedom", 500, 109);
+        x.drop(0);
+        e.row(x, "freedom", 0, 0);
 
         e.of(27, "FREEDOM what 0: FREE, 1: how much. -1000000 for others, or without a SHOP.");
         e.row(Due.shopped("shop 9 9"), "freedom", 0, 0);
@@ -671,6 +676,13 @@ final class EdgesOfAsks {
         y.day();
         Due.rule(y, "price told+looks-sale/10");
         y.force(0);
+        addUp(y);
+        // All THINGS there can be.
+        Due.shop(y, "shop 9 90" + ";thing 30 0 3;thing 20 0 5".repeat(4));
+        addUp(y);
+    }
+
+    private void addUp(FortyBasket y) {
         for (int m : new int[] {1, 2, 9, 10}) {
             for (int n : new int[] {1, 2, 59, 60}) {
                 // Each of the times is from now on, with the DRAWS that come next.

@@ -199,6 +199,7 @@ final class EdgesOfTexts {
 
         e.of(Edges.TERMS, "TEST: PART { or PART }. PART: FACT { and FACT }. FACT: not FACT | [ TEST ] (these brackets are signs)");
         by("price 5 if 1=1 or 1=1 and 1=2;price 6", 5);
+        by("price 5 if 1=2 and 1=1 or 1=1;price 6", 5);
         by("price 5 if [1=1 or 1=1] and 1=2;price 6", 6);
         by("price 5 if not 1=1 or 1=1;price 6", 5);
         by("price 5 if not [1=1 or 1=1];price 6", 6);
@@ -242,11 +243,14 @@ final class EdgesOfTexts {
         e.of(Edges.TERMS, "WORDS (small letters, as far as these go on) of a THING on a DAY:");
         by("price told", 100);
         by("price told+thing", 100);
+        by("price day*1000+looks*100+worth", 5330);
+        by("price stock*100+sale", 450);
         by("price5if looks=3", 5);
         e.rule("price toldif", Due.fault(6, 0));
         e.rule("price tol", Due.fault(6, 0));
         e.rule("price z", Due.fault(6, 0));
         e.rule("price zold", Due.fault(6, 0));
+        e.rule("price toldz", Due.fault(6, 0));
         e.rule("price told z1", Due.fault(11, 0));
         e.rule("price Told", Due.fault(6, 0));
         e.rule("price tolD", Due.fault(6, 0));
@@ -338,6 +342,14 @@ final class EdgesOfTexts {
         by(last + "+0", 9);
         by(last + "+1", 1);
         e.rule(last + "+0+0+0", Due.fault(last.length() + 5, 3));
+        // Each text is counted for itself.
+        FortyBasket x = Due.shopped("shop 0 0;thing 1 0 0");
+        for (int r = 0; r < 6; r++) {
+            e.is("one too many ahead of rule " + r, Due.rule(x, "price 1" + times("+1", 60)), Due.fault(7 + 59 * 2 + 1, 3));
+            e.is("rule " + r, Due.rule(x, "price " + r + times("+1", 59)), r);
+            x.force(r);
+            e.call(x, 59 + r, "dear", 0, 0, 0);
+        }
         // Brackets, not, and, or do not count.
         by("price 1" + times("+1", 53) + " if not[[1=2]]and not 1=2", 54);
     }
