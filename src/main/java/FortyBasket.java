@@ -886,22 +886,12 @@ public final class FortyBasket {
             rule.testEnd[clause] = rule.length;
         }
 
-        /** A TEST at level 0, a PART at level 1, a FACT at level 2: a row of those of the next level. */
+        /** A TEST at level 0, a PART at level 1, a FACT at level 2. */
         private void test(int level, int depth) {
-            if (level > 1) {
-                fact(depth);
+            if (level < 2) {
+                rowOfTests(level, depth);
                 return;
             }
-            int between = level == 0 ? OR : AND;
-            test(level + 1, depth);
-            for (int i = 0; i < TAPE && text.token == between; i++) {
-                text.next();
-                test(level + 1, depth);
-                emit(-1 - between);
-            }
-        }
-
-        private void fact(int depth) {
             if (text.token == NOT || text.token == OPEN) {
                 enclosedFact(depth);
                 return;
@@ -918,12 +908,22 @@ public final class FortyBasket {
             emit(-1 - sign);
         }
 
+        private void rowOfTests(int level, int depth) {
+            int between = level == 0 ? OR : AND;
+            test(level + 1, depth);
+            for (int i = 0; i < TAPE && text.token == between; i++) {
+                text.next();
+                test(level + 1, depth);
+                emit(-1 - between);
+            }
+        }
+
         private void enclosedFact(int depth) {
             if (depth >= DEPTH) {
                 text.fail(FAULT_DEPTH);
             } else if (text.token == NOT) {
                 text.next();
-                fact(depth + 1);
+                test(2, depth + 1);
                 emit(-1 - NOT);
             } else {
                 text.next();

@@ -29,25 +29,9 @@ public final class LanguageTest {
         D.holds("no static state", !fields.find());
     }
 
-    /** A method opens with a head that ends in ") {" and closes by a brace as far to the left. */
-    private static void methodLengths(String text) {
-        String[] lines = text.split("\n");
-        for (int i = 0; i < lines.length; i++) {
-            Matcher head = Pattern.compile("^( {4}| {8})(public|private)[^=;]*\\([^=;]*\\) \\{$").matcher(lines[i]);
-            if (head.matches()) {
-                int end = i;
-                while (!lines[end].equals(head.group(1) + "}")) {
-                    end++;
-                }
-                D.holds(lines[i].trim() + " has at most sixty lines, not " + (end - i + 1), end - i + 1 <= 60);
-            }
-        }
-    }
-
     public static void main(String[] args) throws IOException {
         String text = Files.readString(Path.of("src/main/java/FortyBasket.java"));
         banned(withoutComments(text));
-        methodLengths(text);
         D.finish();
     }
 }
